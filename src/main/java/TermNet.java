@@ -263,7 +263,8 @@ public final class TermNet {
 
         /** None where the group is not KNOWN. */
         int partsOf(int t) {
-            return isKnown(t) ? told.partsOfTerm(shapeOf(t)) : 0;
+            int s = shapeOf(t);
+            return s == NONE ? 0 : told.partsOfTerm(s);
         }
 
         int partLeader(int t, int k) {
