@@ -230,9 +230,9 @@ public final class TermNet {
     private static final class Groups {
         private final Told told;
         private final int[] leader = new int[MAX_TERMS];
-        /** The TERMS of a group in a ring: two swapped links join two rings, and part them again. */
+        /** A group is a ring of TERMS: two swapped links join two rings, and part them again. */
         private final int[] ring = new int[MAX_TERMS];
-        /** At a leader: a TERM of its group that has a SIGN, or NONE. A former leader keeps its own. */
+        /** For a leader: a TERM with a SIGN in its group, or NONE. It stays when it leads no more. */
         private final int[] shape = new int[MAX_TERMS];
         /** The leaders that lost their place, in the order in which they did. */
         private final int[] trail = new int[MAX_TERMS];
