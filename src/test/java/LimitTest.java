@@ -2,7 +2,7 @@ import java.util.function.IntUnaryOperator;
 
 /** The largest nets that 512 calls can make, and that no number of calls breaks the object. */
 public final class LimitTest {
-    private static final int MAX_TERMS = 400;
+    private static final int MAX_TERMS = Nets.MAX_TERMS;
     private static final Due due = new Due("LimitTest");
 
     public static void main(String[] args) {
@@ -19,8 +19,8 @@ public final class LimitTest {
 
     private static void deepestTree() {
         due.about("a tree of 400 levels");
-        TermNet x = withSigns();
-        tower(x, x.unknown(), MAX_TERMS - 1);
+        TermNet x = Nets.withSigns();
+        Nets.tower(x, x.unknown(), MAX_TERMS - 1);
         due.is(MAX_TERMS, () -> x.count(1));
         due.is(MAX_TERMS, () -> x.depth(MAX_TERMS - 1));
         due.is(MAX_TERMS, () -> x.size(MAX_TERMS - 1));
@@ -33,9 +33,9 @@ public final class LimitTest {
 
     private static void twoDeepTrees() {
         due.about("two trees of 200 levels made one");
-        TermNet x = withSigns();
-        int left = tower(x, x.unknown(), 199);
-        int right = tower(x, x.unknown(), 199);
+        TermNet x = Nets.withSigns();
+        int left = Nets.tower(x, x.unknown(), 199);
+        int right = Nets.tower(x, x.unknown(), 199);
         due.is(MAX_TERMS, () -> x.count(4));
         x.mark();
         due.is(true, () -> x.equal(left, right));
@@ -51,10 +51,10 @@ public final class LimitTest {
 
     private static void deepTreeBelowItself() {
         due.about("a cycle over 398 levels");
-        TermNet x = withSigns();
+        TermNet x = Nets.withSigns();
         int a = x.unknown();
         int b = x.unknown();
-        int top = tower(x, a, 398);
+        int top = Nets.tower(x, a, 398);
         due.is(true, () -> x.equal(b, top));
         due.is(false, () -> x.equal(a, b));
         due.is(-1, () -> x.top(a));
@@ -69,7 +69,7 @@ public final class LimitTest {
     }
 
     private static void chain(IntUnaryOperator one, IntUnaryOperator other) {
-        TermNet x = withSigns();
+        TermNet x = Nets.withSigns();
         for (int n = 0; n <= 249; n++) {
             x.unknown();
         }
@@ -90,9 +90,9 @@ public final class LimitTest {
 
     private static void twinsAllTheWayUp() {
         due.about("one equation below makes 199 pairs SAME");
-        TermNet x = withSigns();
-        int left = tower(x, x.unknown(), 199);
-        int right = tower(x, x.unknown(), 199);
+        TermNet x = Nets.withSigns();
+        int left = Nets.tower(x, x.unknown(), 199);
+        int right = Nets.tower(x, x.unknown(), 199);
         x.mark();
         due.is(true, () -> x.equal(200, 0));
         due.is(true, () -> x.same(left, right));
@@ -106,7 +106,7 @@ public final class LimitTest {
     /** Each UNKNOWN stands for a TERM that is made after it, so trees go against the numbers. */
     private static void chainOfBoundUnknowns() {
         due.about("a tree through bound unknowns");
-        TermNet x = withSigns();
+        TermNet x = Nets.withSigns();
         int levels = 160;
         for (int n = 0; n <= levels; n++) {
             x.unknown();
@@ -127,9 +127,9 @@ public final class LimitTest {
 
     private static void equationsUndoneOverAndOver() {
         due.about("the same points and equations again and again");
-        TermNet x = withSigns();
-        int left = tower(x, x.unknown(), 99);
-        int right = tower(x, x.unknown(), 99);
+        TermNet x = Nets.withSigns();
+        int left = Nets.tower(x, x.unknown(), 99);
+        int right = Nets.tower(x, x.unknown(), 99);
         for (int n = 0; n < 60; n++) {
             due.is(1, () -> x.mark());
             due.is(true, () -> x.equal(right, left));
@@ -143,7 +143,7 @@ public final class LimitTest {
     /** Answers are free then; but a call still ends, and throws nothing that is not on the face. */
     private static void manyMoreCalls() {
         due.about("far more than 512 calls");
-        TermNet x = withSigns();
+        TermNet x = Nets.withSigns();
         for (int n = 0; n < 3000; n++) {
             int a = (n * 7919) % 500 - 20;
             int b = (n * 104729) % 450 - 20;
@@ -166,21 +166,5 @@ public final class LimitTest {
                 || answer.equals("throws.IllegalArgumentException")
                 || answer.equals("throws.IndexOutOfBoundsException")
                 || answer.equals("throws.NoSuchElementException");
-    }
-
-    private static int tower(TermNet x, int ground, int levels) {
-        int t = ground;
-        for (int n = 0; n < levels; n++) {
-            t = x.term(1, t, 0, 0);
-        }
-        return t;
-    }
-
-    private static TermNet withSigns() {
-        TermNet x = new TermNet();
-        for (int n = 0; n <= 3; n++) {
-            x.sign(n);
-        }
-        return x;
     }
 }

@@ -6,6 +6,8 @@ public final class ModelTest {
     private static final int CALLS = 512;
     /** The last calls of a run look at term after term, so that no change goes unseen. */
     private static final int LOOKS = 152;
+    /** In runs that are to fill the net, fewer calls are left for that. */
+    private static final int FEW_LOOKS = 32;
 
     private final Due due;
     private final Random random;
@@ -17,34 +19,51 @@ public final class ModelTest {
     private final int share;
     private final int reach;
     private final int pointShare;
+    private final int markShare;
+    private final int looks;
     private int holding = 0;
     private int refused = 0;
 
     private ModelTest(Due due, int seed) {
         this.due = due;
-        random = new Random(seed);
-        signsAtStart = 1 + random.nextInt(6);
-        growth = 15 + random.nextInt(70);
+        // Random's first numbers are almost the same for seeds that lie close together.
+        random = new Random(seed * 0x9E3779B97F4A7C15L);
+        boolean toBeFull = random.nextInt(8) == 0;
+        signsAtStart = 1 + random.nextInt(random.nextInt(10) == 0 ? 45 : 6);
+        growth = toBeFull ? 100 - random.nextInt(8) : 15 + random.nextInt(70);
         share = 10 + random.nextInt(60);
         reach = random.nextInt(3) == 0 ? 6 : 400;
         pointShare = random.nextInt(3) == 0 ? 0 : random.nextInt(12);
+        markShare = toBeFull || random.nextInt(8) == 0 ? 90 : 50;
+        looks = toBeFull ? FEW_LOOKS : LOOKS;
     }
 
     public static void main(String[] args) {
         Due due = new Due("ModelTest");
         int holding = 0;
         int refused = 0;
+        int fullOfTerms = 0;
+        int fullOfPoints = 0;
+        int fullOfSigns = 0;
         for (int seed = 1; seed <= RUNS && !due.anyWrong(); seed++) {
             due.about("run " + seed);
             ModelTest run = new ModelTest(due, seed);
             run.all();
             holding += run.holding;
             refused += run.refused;
+            fullOfTerms += run.model.count(1) == Nets.MAX_TERMS ? 1 : 0;
+            fullOfPoints += run.model.count(2) == Nets.MAX_POINTS ? 1 : 0;
+            fullOfSigns += run.model.count(0) == Nets.MAX_SIGNS ? 1 : 0;
         }
         System.out.println("ModelTest: " + holding + " equations held, " + refused + " did not");
         due.about("both kinds of equations come often");
         int least = Math.min(holding, refused);
         due.is(true, () -> least > 10 * RUNS);
+        System.out.println("ModelTest: runs that end full of terms, points, signs: " + fullOfTerms
+                + ", " + fullOfPoints + ", " + fullOfSigns);
+        due.about("runs come to each limit");
+        int rarest = Math.min(fullOfTerms, Math.min(fullOfPoints, fullOfSigns));
+        due.is(true, () -> rarest >= 10);
         due.end();
     }
 
@@ -52,13 +71,13 @@ public final class ModelTest {
         for (int n = 0; n < signsAtStart; n++) {
             sign(random.nextInt(4));
         }
-        for (int n = signsAtStart; n < CALLS - LOOKS && !due.anyWrong(); n++) {
+        for (int n = signsAtStart; n < CALLS - looks && !due.anyWrong(); n++) {
             call();
         }
         compare("count(4)", () -> model.count(4), () -> net.count(4));
         compare("count(5)", () -> model.count(5), () -> net.count(5));
         int terms = model.count(1);
-        for (int n = 0; n < (LOOKS - 2) / 3 && n < terms; n++) {
+        for (int n = 0; n < (looks - 2) / 3 && n < terms; n++) {
             lookAt(terms - 1 - n);
         }
     }
@@ -77,7 +96,7 @@ public final class ModelTest {
     }
 
     private void markOrBack() {
-        if (random.nextInt(2) == 0) {
+        if (random.nextInt(100) < markShare) {
             compare("mark()", () -> model.mark(), () -> net.mark());
         } else {
             compare("back()", () -> model.back(), () -> net.back());

@@ -1,9 +1,9 @@
 /** Each promise of the document by itself: ordinary inputs, edges and wrong inputs. */
 public final class PromiseTest {
-    private static final int MAX_SIGNS = 40;
-    private static final int MAX_TERMS = 400;
-    private static final int MAX_POINTS = 20;
-    private static final int[] NO_TERMS = {-1, Integer.MIN_VALUE, Integer.MAX_VALUE, MAX_TERMS};
+    private static final int MAX_SIGNS = Nets.MAX_SIGNS;
+    private static final int MAX_TERMS = Nets.MAX_TERMS;
+    private static final int MAX_POINTS = Nets.MAX_POINTS;
+    private static final int[] NO_TERMS = Nets.NO_TERMS;
 
     private static final Due due = new Due("PromiseTest");
 
@@ -92,7 +92,7 @@ public final class PromiseTest {
 
     private static void termsWithSigns() {
         due.about("promise 4");
-        TermNet x = withSigns();
+        TermNet x = Nets.withSigns();
         x.unknown();
         due.is(1, () -> x.term(0, 0, 0, 0));
         due.is(2, () -> x.term(1, 1, 0, 0));
@@ -119,7 +119,7 @@ public final class PromiseTest {
 
     private static void partsThatTheSignHasNot() {
         due.about("promise 4, parts that the sign has not");
-        TermNet x = withSigns();
+        TermNet x = Nets.withSigns();
         due.is(0, () -> x.term(0, -7, Integer.MIN_VALUE, Integer.MAX_VALUE));
         due.is(1, () -> x.term(1, 0, -1, 400));
         due.is(2, () -> x.term(2, 0, 1, -400));
@@ -133,7 +133,7 @@ public final class PromiseTest {
 
     private static void equations() {
         due.about("promise 5");
-        TermNet x = withSigns();
+        TermNet x = Nets.withSigns();
         int a = x.unknown();
         int b = x.unknown();
         int c = x.unknown();
@@ -157,7 +157,7 @@ public final class PromiseTest {
 
     private static void clashes() {
         due.about("promise 5, signs that clash");
-        TermNet x = withSigns();
+        TermNet x = Nets.withSigns();
         int zero = x.sign(0);
         int a = x.unknown();
         int k = x.term(0, 0, 0, 0);
@@ -180,7 +180,7 @@ public final class PromiseTest {
 
     private static void refusedEquationChangesNothing() {
         due.about("promise 5, a refused one");
-        TermNet x = withSigns();
+        TermNet x = Nets.withSigns();
         int a = x.unknown();
         int b = x.unknown();
         int c = x.unknown();
@@ -205,7 +205,7 @@ public final class PromiseTest {
 
     private static void noTermBelowItself() {
         due.about("promise 5, finite trees");
-        TermNet x = withSigns();
+        TermNet x = Nets.withSigns();
         int a = x.unknown();
         int b = x.unknown();
         int c = x.unknown();
@@ -229,7 +229,7 @@ public final class PromiseTest {
 
     private static void sameTerms() {
         due.about("promise 6");
-        TermNet x = withSigns();
+        TermNet x = Nets.withSigns();
         int a = x.unknown();
         int b = x.unknown();
         int k = x.term(0, 0, 0, 0);
@@ -255,7 +255,7 @@ public final class PromiseTest {
 
     private static void sameByPartsOfEarlierTerms() {
         due.about("promise 6, parts that become SAME later");
-        TermNet x = withSigns();
+        TermNet x = Nets.withSigns();
         int a = x.unknown();
         int b = x.unknown();
         int c = x.unknown();
@@ -281,7 +281,7 @@ public final class PromiseTest {
     /** A group may have been used as a part before it is found to be SAME as a lesser one. */
     private static void sameByPartsThatChangeLeast() {
         due.about("promise 6, a lesser TERM comes up later");
-        TermNet x = withSigns();
+        TermNet x = Nets.withSigns();
         int e = x.unknown();
         int a = x.unknown();
         int b = x.unknown();
@@ -302,7 +302,7 @@ public final class PromiseTest {
 
     private static void tops() {
         due.about("promise 7");
-        TermNet x = withSigns();
+        TermNet x = Nets.withSigns();
         int a = x.unknown();
         int b = x.unknown();
         int ga = x.term(1, a, 0, 0);
@@ -323,7 +323,7 @@ public final class PromiseTest {
 
     private static void partsOfKnownTerms() {
         due.about("promise 8");
-        TermNet x = withSigns();
+        TermNet x = Nets.withSigns();
         int a = x.unknown();
         int b = x.unknown();
         int c = x.unknown();
@@ -354,7 +354,7 @@ public final class PromiseTest {
 
     private static void leastTerms() {
         due.about("promise 9");
-        TermNet x = withSigns();
+        TermNet x = Nets.withSigns();
         for (int n = 0; n < 6; n++) {
             x.unknown();
         }
@@ -377,7 +377,7 @@ public final class PromiseTest {
 
     private static void sizes() {
         due.about("promise 10");
-        TermNet x = withSigns();
+        TermNet x = Nets.withSigns();
         int a = x.unknown();
         int b = x.unknown();
         int aba = x.term(3, a, b, a);
@@ -400,11 +400,11 @@ public final class PromiseTest {
 
     /** One term over parts of these sizes, each made of doublings and steps of one. */
     private static void sizesUpToTheMost(int n, long[] wanted) {
-        TermNet x = withSigns();
+        TermNet x = Nets.withSigns();
         int[] made = new int[3];
         long sum = 1;
         for (int k = 0; k < n; k++) {
-            int t = treeOfSize(x, wanted[k]);
+            int t = Nets.treeOfSize(x, wanted[k]);
             made[k] = t;
             long size = wanted[k];
             due.is(Math.min(size, 1000000000L), () -> x.size(t));
@@ -417,20 +417,9 @@ public final class PromiseTest {
         due.is(Math.min(3 * Math.min(all, 1000000000L) + 1, 1000000000L), () -> x.size(over));
     }
 
-    private static int treeOfSize(TermNet x, long wanted) {
-        if (wanted == 1) {
-            return x.unknown();
-        }
-        if (wanted % 2 == 0) {
-            return x.term(1, treeOfSize(x, wanted - 1), 0, 0);
-        }
-        int half = treeOfSize(x, (wanted - 1) / 2);
-        return x.term(2, half, half, 0);
-    }
-
     private static void depths() {
         due.about("promise 11");
-        TermNet x = withSigns();
+        TermNet x = Nets.withSigns();
         int a = x.unknown();
         int b = x.unknown();
         int k = x.term(0, 0, 0, 0);
@@ -454,7 +443,7 @@ public final class PromiseTest {
 
     private static void insides() {
         due.about("promise 12");
-        TermNet x = withSigns();
+        TermNet x = Nets.withSigns();
         int a = x.unknown();
         int b = x.unknown();
         int c = x.unknown();
@@ -483,7 +472,7 @@ public final class PromiseTest {
 
     private static void unknownsInTrees() {
         due.about("promise 13");
-        TermNet x = withSigns();
+        TermNet x = Nets.withSigns();
         int a = x.unknown();
         int b = x.unknown();
         int c = x.unknown();
@@ -538,7 +527,7 @@ public final class PromiseTest {
 
     private static void backUndoesTermsAndEquations() {
         due.about("promise 15, what is undone");
-        TermNet x = withSigns();
+        TermNet x = Nets.withSigns();
         int a = x.unknown();
         int b = x.unknown();
         int ga = x.term(1, a, 0, 0);
@@ -569,7 +558,7 @@ public final class PromiseTest {
 
     private static void pointsInPoints() {
         due.about("promise 15, points in points");
-        TermNet x = withSigns();
+        TermNet x = Nets.withSigns();
         for (int n = 0; n < 6; n++) {
             x.unknown();
         }
@@ -600,7 +589,7 @@ public final class PromiseTest {
 
     private static void counts() {
         due.about("promise 16");
-        TermNet x = withSigns();
+        TermNet x = Nets.withSigns();
         int a = x.unknown();
         int b = x.unknown();
         x.mark();
@@ -629,7 +618,7 @@ public final class PromiseTest {
 
     private static void badBeforeFull() {
         due.about("bad before full");
-        TermNet x = withSigns();
+        TermNet x = Nets.withSigns();
         for (int n = 0; n < MAX_TERMS; n++) {
             x.unknown();
         }
@@ -641,7 +630,7 @@ public final class PromiseTest {
 
     private static void refusedCallsChangeNothing() {
         due.about("refused calls");
-        TermNet x = withSigns();
+        TermNet x = Nets.withSigns();
         int a = x.unknown();
         int t = x.term(1, a, 0, 0);
         due.bad(() -> x.term(1, 2, 0, 0));
@@ -653,14 +642,5 @@ public final class PromiseTest {
         due.is("4 2 0 0 2 1", () -> x.count(0) + " " + x.count(1) + " " + x.count(2) + " "
                 + x.count(3) + " " + x.count(4) + " " + x.count(5));
         due.is(2, () -> x.unknown());
-    }
-
-    /** A new object with a SIGN for each number of parts, numbered as it. */
-    private static TermNet withSigns() {
-        TermNet x = new TermNet();
-        for (int n = 0; n <= 3; n++) {
-            x.sign(n);
-        }
-        return x;
     }
 }
