@@ -232,7 +232,7 @@ public final class TermNet {
         private final int[] leader = new int[MAX_TERMS];
         /** A group is a ring of TERMS: two swapped links join two rings, and part them again. */
         private final int[] ring = new int[MAX_TERMS];
-        /** For a leader: a TERM with a SIGN in its group, or NONE. It stays when it leads no more. */
+        /** For a leader: a TERM with a SIGN in its group, or NONE. Kept when the lead is lost. */
         private final int[] shape = new int[MAX_TERMS];
         /** The leaders that lost their place, in the order in which they did. */
         private final int[] trail = new int[MAX_TERMS];
